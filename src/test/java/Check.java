@@ -1,6 +1,8 @@
-/** Counts the answers that are not as due, and tells them. */
+/** Counts the answers that are not as due, and tells them, with the document's sentence that they break. */
 final class Check {
     private final String name;
+    private String sentence = "";
+    private int sentences = 0;
     private int asked = 0;
     private int wrong = 0;
 
@@ -8,11 +10,17 @@ final class Check {
         this.name = name;
     }
 
+    /** The sentence of the document that the answers from here on are due by. */
+    void says(String text) {
+        sentence = " [" + text + "]";
+        sentences++;
+    }
+
     void due(String call, long got, long want) {
         asked++;
         if (got != want) {
             wrong++;
-            System.out.println(name + ": " + call + " answered " + got + ", due is " + want);
+            System.out.println(name + sentence + ": " + call + " answered " + got + ", due is " + want);
         }
     }
 
@@ -25,7 +33,8 @@ final class Check {
     }
 
     void finish() {
-        System.out.println(name + ": " + asked + " answers, " + wrong + " not as due");
+        String of = sentences > 0 ? " by " + sentences + " sentences" : "";
+        System.out.println(name + ": " + asked + " answers" + of + ", " + wrong + " not as due");
         if (wrong != 0 || asked == 0) {
             System.exit(1);
         }

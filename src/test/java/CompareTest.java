@@ -1,9 +1,14 @@
 import java.util.Arrays;
 
-/** Made-up nets, always the same ones: what CoverRounds answers is compared with PlainNet. */
+/**
+ * Made-up nets, always the same ones: what CoverRounds answers is compared with PlainNet. No object gets more than
+ * 512 calls, for nothing is promised behind them.
+ */
 public final class CompareTest {
     private static final int NETS = 1500;
     private static final int LONGEST_ROW_TRIED = 9;
+    private static final int FIRINGS = 6;
+    private static final int MOST_LIMITS_ASKED = 10;
     private static final Check CHECK = new Check("CompareTest");
     private static final int[] SEEN = new int[3];
     private static int treesSeen = 0;
@@ -99,7 +104,7 @@ public final class CompareTest {
 
     private static void compareRounds(String name, CoverRounds x, PlainNet plain, int[] firstRow) {
         CHECK.due(name + "steps()", x.steps(), plain.steps());
-        for (int i = 0; i <= 61; i++) {
+        for (int i = 0; i <= plain.rounds.size(); i++) {
             int want = i < plain.rounds.size() ? plain.rounds.get(i).size() : -1;
             CHECK.due(name + "least(" + i + ")", x.least(i), want);
             if (i >= plain.steps()) {
@@ -113,8 +118,9 @@ public final class CompareTest {
     private static void compareTree(String name, CoverRounds x, PlainNet plain) {
         int count = plain.tooManyNodes ? -1 : plain.limits.size();
         CHECK.due(name + "limits()", x.limits(), count);
+        int apart = 1 + count / MOST_LIMITS_ASKED;
         for (int p = 0; p < plain.first.size(); p++) {
-            for (int k = 0; k < count; k++) {
+            for (int k = next(apart - 1); k < count; k += apart) {
                 CHECK.due(name + "limit(" + k + ", " + p + ")", x.limit(k, p), told(plain.limits.get(k)[p]));
             }
             int place = p;
@@ -146,7 +152,7 @@ public final class CompareTest {
             return;
         }
         int[] now = plain.firstMarking();
-        for (int k = 0; k < 12; k++) {
+        for (int k = 0; k < FIRINGS; k++) {
             int t = next(plain.transitions - 1);
             boolean can = plain.canFire(t, now);
             now = can ? plain.fired(t, now) : now;

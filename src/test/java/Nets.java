@@ -4,7 +4,10 @@ final class Nets {
     }
 
     static CoverRounds places(int... tokens) {
-        CoverRounds net = new CoverRounds();
+        return placesOn(new CoverRounds(), tokens);
+    }
+
+    static CoverRounds placesOn(CoverRounds net, int... tokens) {
         for (int count : tokens) {
             net.place(count);
         }

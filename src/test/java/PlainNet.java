@@ -20,6 +20,19 @@ final class PlainNet {
     final List<int[]> limits = new ArrayList<>();
     boolean tooManyNodes;
 
+    void tell(int[] tokens, int[] wanted) {
+        for (int p = 0; p < tokens.length; p++) {
+            first.add(tokens[p]);
+            target.add(wanted[p]);
+        }
+    }
+
+    void addTransition(int[] taken, int[] given) {
+        System.arraycopy(taken, 0, takes[transitions], 0, taken.length);
+        System.arraycopy(given, 0, gives[transitions], 0, given.length);
+        transitions++;
+    }
+
     int[] firstMarking() {
         return toRow(first);
     }
