@@ -27,6 +27,7 @@ public final class TreeEdgesTest {
         nothingIsFoundThen();
         mostOfNoSuchPlace();
         mostOfNone();
+        mostOfTheTreeBefore();
         mostWithoutTree();
         liveOfNoSuchTransition();
         liveWithoutTree();
@@ -278,6 +279,9 @@ public final class TreeEdgesTest {
         CHECK.due("most(1)", x.most(1), 3);
         CHECK.yes("live(1)", x.live(1));
         CHECK.yes("covers()", x.covers());
+        Nets.placesOn(x, 20, 0, 20);
+        grow(x, 1000, 1);
+        limit(x, 0, 9, 3, 20, 0, 20);
     }
 
     /** As with 1000 nodes, but for one more at the root: the others wait for a token of place 3. */
@@ -362,6 +366,23 @@ public final class TreeEdgesTest {
         x.arc(0, 2, 0, 0);
         grow(x, 3, 1);
         CHECK.due("most(3) without bound", x.most(3), OMEGA);
+    }
+
+    /** The tree before had more nodes and limits, with 100 tokens at place 1. */
+    private static void mostOfTheTreeBefore() {
+        CHECK.says("Promise 11: in the tree that was grown, not in the one before");
+        CoverRounds x = Nets.places(20, 0, 0);
+        Nets.transition(x, 0, 1, 0, 1, 0, 5);
+        grow(x, 21, 21);
+        CHECK.due("most(1)", x.most(1), 100);
+        x.target(1, 20);
+        CHECK.yes("covers()", x.covers());
+        x.arc(0, 2, 1, 0);
+        grow(x, 1, 1);
+        CHECK.due("next most(0)", x.most(0), 20);
+        CHECK.due("next most(1)", x.most(1), 0);
+        CHECK.no("next covers()", x.covers());
+        CHECK.no("next live(0)", x.live(0));
     }
 
     private static void mostWithoutTree() {
