@@ -86,6 +86,7 @@ public final class NetEdgesTest {
             }
         }
         for (int t = 0; t < 6; t++) {
+            // the same arc once more, to go back to the first marking
             x.arc(5, 4, 3, 2);
             CHECK.yes("fire(" + t + ")", x.fire(t));
             for (int p = 0; p < 5; p++) {
@@ -388,12 +389,18 @@ public final class NetEdgesTest {
         CoverRounds x = fired();
         Answers before = Answers.ofNow(x);
         x.target(0, 1);
+        staysNow("target()", x, before);
         x.rounds();
+        staysNow("rounds()", x, before);
         x.grow();
+        staysNow("grow()", x, before);
         x.covers();
         Answers.of(x);
-        x.fire(0);
-        CHECK.due("others at the marking of now", Answers.ofNow(x).otherThan(before), 0);
+        staysNow("what only asks", x, before);
+    }
+
+    private static void staysNow(String behind, CoverRounds x, Answers before) {
+        CHECK.due("others at the marking of now behind " + behind, Answers.ofNow(x).otherThan(before), 0);
     }
 
     private static void fireWhenItCannot() {
@@ -406,7 +413,7 @@ public final class NetEdgesTest {
         for (int k = 0; k < 3; k++) {
             CHECK.no("fire(0) with 1 of 2", x.fire(0));
         }
-        CHECK.due("others at the marking of now", Answers.ofNow(x).otherThan(before), 0);
+        staysNow("what can't fire", x, before);
         CHECK.due("tokens(0)", x.tokens(0), 1);
         CHECK.due("tokens(1)", x.tokens(1), 1);
         CHECK.due("tokens(2)", x.tokens(2), 6);
