@@ -10,9 +10,9 @@ public final class CompareTest {
     private static final int FIRINGS = 6;
     private static final int MOST_LIMITS_ASKED = 10;
     private static final Check CHECK = new Check("CompareTest");
+    private static final MadeUp MADE_UP = new MadeUp(20261115L);
     private static final int[] SEEN = new int[3];
     private static int treesSeen = 0;
-    private static long state = 20261115L;
 
     public static void main(String[] args) {
         for (int k = 0; k < NETS; k++) {
@@ -24,10 +24,8 @@ public final class CompareTest {
         CHECK.finish();
     }
 
-    /** A number from 0 to most. */
     private static int next(int most) {
-        state = state * 6364136223846793005L + 1442695040888963407L;
-        return (int) Math.floorMod(state >>> 33, (long) most + 1);
+        return MADE_UP.next(most);
     }
 
     private static void compareOne(int k) {
